@@ -19,7 +19,7 @@ public final class WigOffice {
     private static final int MOST_PIECES = 5;
 
     private final Tape tape = new Tape();
-    private final Reader reader = new Reader();
+    private final Reader reader = new Reader(tape);
     private final Affairs now = new Affairs();
     private final Affairs[] marks = new Affairs[MARKS];
     private final Stands[] past = new Stands[MOST_UNDONE];
@@ -50,7 +50,7 @@ public final class WigOffice {
     }
 
     public int realm() {
-        int fault = reader.readRealm(tape, draft);
+        int fault = reader.readRealm(draft);
         tape.clear();
         if (fault != 0) {
             return fault;
@@ -67,7 +67,7 @@ public final class WigOffice {
     }
 
     public int years() {
-        int fault = reader.readYears(tape, told, draftYears);
+        int fault = reader.readYears(told, draftYears);
         tape.clear();
         if (fault == 0) {
             now.years.copy(draftYears);
@@ -288,8 +288,8 @@ public final class WigOffice {
         }
         int baths = 0;
         for (int i = 0; i < seasons; i++) {
-            int tilt = told.tilt(wig, head, now.stands.season + i);
-            baths += Math.max(0, -tilt) + Math.max(0, tilt - told.slack);
+            int larger = told.sizeOfWig(wig) - told.girth(head, now.stands.season + i);
+            baths += Math.max(0, -larger) + Math.max(0, larger - told.slack);
         }
         return baths;
     }
@@ -853,14 +853,13 @@ public final class WigOffice {
             return kind == BOY ? girth + fours : kind == BALD ? girth - 1 : girth;
         }
 
-        /** How much larger a WIG is; less than 0 where it is smaller. */
-        private int tilt(int wig, int head, int season) {
-            return sizeOfWig(wig) - girth(head, season);
+        private boolean isFit(int wig, int head, int season) {
+            return isTilt(sizeOfWig(wig) - girth(head, season));
         }
 
-        private boolean isFit(int wig, int head, int season) {
-            int tilt = tilt(wig, head, season);
-            return tilt >= 0 && tilt <= slack;
+        /** Whether a WIG that is so much larger FITS. */
+        private boolean isTilt(int larger) {
+            return larger >= 0 && larger <= slack;
         }
 
         private boolean isFor(int lean, int head, int hard) {
@@ -882,12 +881,16 @@ public final class WigOffice {
         private static final int PRODUCTS = 1;
         private static final int PARTS = 2;
 
-        private Tape tape = null;
+        private final Tape tape;
         private int at;
         private int fault;
 
-        private int readRealm(Tape source, Realm realm) {
-            start(source);
+        private Reader(Tape tape) {
+            this.tape = tape;
+        }
+
+        private int readRealm(Realm realm) {
+            start();
             realm.clear();
             for (int i = 0; i < MOST_SIGNS && kind() != Word.END; i++) {
                 if (!realmLine(realm)) {
@@ -897,8 +900,8 @@ public final class WigOffice {
             return 0;
         }
 
-        private int readYears(Tape source, Realm realm, Years years) {
-            start(source);
+        private int readYears(Realm realm, Years years) {
+            start();
             years.count = 0;
             for (int i = 0; i < MOST_SIGNS && kind() != Word.END; i++) {
                 if (!yearsLine(realm, years)) {
@@ -908,23 +911,22 @@ public final class WigOffice {
             return 0;
         }
 
-        private void start(Tape source) {
-            tape = source;
+        private void start() {
             tape.split();
             at = 0;
             fault = 0;
         }
 
         private Word kind() {
-            return tape != null && at < tape.tokens ? tape.kinds[at] : Word.END;
+            return at < tape.tokens ? tape.kinds[at] : Word.END;
         }
 
         private long value() {
-            return tape != null && at < tape.tokens ? tape.values[at] : 0;
+            return at < tape.tokens ? tape.values[at] : 0;
         }
 
         private boolean fail(int kind) {
-            int place = tape != null && at < tape.tokens ? tape.places[at] : 0;
+            int place = at < tape.tokens ? tape.places[at] : 0;
             fault = kind + 16 * place;
             return false;
         }
@@ -1457,8 +1459,8 @@ public final class WigOffice {
             for (int head = 0; head < heads; head++) {
                 int girth = realm.girth(head, season);
                 for (int wig = 0; wig < wigs; wig++) {
-                    int tilt = realm.sizeOfWig(wig) - girth;
-                    tilts[wig][head] = tilt >= 0 && tilt <= realm.slack ? tilt : NONE;
+                    int larger = realm.sizeOfWig(wig) - girth;
+                    tilts[wig][head] = realm.isTilt(larger) ? larger : NONE;
                 }
             }
         }
