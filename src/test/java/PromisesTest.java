@@ -153,6 +153,75 @@ public final class PromisesTest {
     realmFault("wig a size |39 office 100 lean;", 4);
   }
 
+  private static void names() {
+    promise = 3;
+    String[] none = {"wig", "size", "office", "lean", "head", "aged", "heats", "slack", "swells", "judges", "put", "off", "mend", "season",
+      "plain", "hot", "bald", "boy", "not", "and", "or", "(", ")", "<", "=", "+", "-", "*", ";", "7"};
+    WigOffice x = told(ALL);
+    for (String word : none) {
+      promise = 3;
+      realmFault("wig |" + word + " size 60 office 1 lean 1;", 1);
+      realmFault("head |" + word + " hot size 60 aged 1 lean 1;", 1);
+      promise = 4;
+      yearsFault(x, "put |" + word + " ann;", 1);
+      yearsFault(x, "put law |" + word + ";", 1);
+    }
+    promise = 3;
+    for (String word : new String[] {"heat", "years", "sort", "wigged", "headed", "hard", "wigs", "wi", "seasons", "nor", "zzzzzzzz"}) {
+      realmFault("wig " + word + " size 60 office 1 lean 1;", 0);
+      realmFault("head " + word + " hot size 60 aged 1 lean 1;", 0);
+    }
+  }
+
+  private static void fullTape() {
+    promise = 3;
+    WigOffice x = new WigOffice();
+    StringBuilder b = new StringBuilder();
+    for (int i = 0; i < 1000; i++) b.append(';');
+    due("1,000 tokens", realm(x, b.toString()), 1);
+    b = new StringBuilder("head a plain size 60 aged 1 lean 1; swells 1");
+    while (b.length() < 998) b.append("*1");
+    b.append(";");
+    due("signs", feed(x, b.toString()), 999);
+    due("feed", x.feed(32, 59, 59), 1000);
+    due("a full tape", x.realm(), 0);
+    due("girth", x.head(0, 4), 61);
+    b.setLength(b.length() - 1);
+    b.append("*");
+    due("the end of a full tape", realm(x, b + "\n"), 1 + 16 * 1000);
+    String deep = "1";
+    for (int i = 0; i < 4; i++) deep = "(0 or 0 = 1 - 1 * " + deep + ")";
+    due("deep", realm(x, "head a plain size 60 aged 1 lean 1;swells 0 or 0 = 1 - 1 * " + deep + ";"), 0);
+    due("girth", x.head(0, 4), 61);
+    String nots = "not (not (not 0))";
+    due("deep", realm(x, "head a plain size 60 aged 1 lean 1;swells " + nots + ";"), 5 + 16 * "head a plain size 60 aged 1 lean 1;swells not (not (not ".length());
+  }
+
+  /** Each thing told in one REALM is gone in the ones behind it. */
+  private static void manyRealms() {
+    promise = 3;
+    WigOffice x = told(ALL + "swells 5;judges 0;");
+    for (int i = 0; i < 3; i++) {
+      x.put(0, 0);
+      x.mend(1);
+      years(x, "season;");
+      x.say(0, 0, true);
+      x.tell(0, 0);
+      x.mark(2, false);
+      due("realm of ann", realm(x, ANN), 0);
+      int[] want = {0, 1, 1, 0, 0, 0, 0, 0, 0, 0, 0, 0, 0};
+      for (int k = 0; k < want.length; k++) due("count(" + k + ")", x.count(k), want[k]);
+      due("no law of swelling", x.head(0, 4), 60);
+      due("no law of judging", x.leans(0), 10);
+      due("no law of judging", x.next(0), 8);
+      due("no mark", x.mark(2, true), false);
+      due("realm of all", realm(x, ALL + "swells 5;judges 0;"), 0);
+      due("no years", x.count(8), 0);
+      due("swells", x.head(0, 4), 65);
+      due("judges", x.next(0), -1);
+    }
+  }
+
   private static void realmStands() {
     realmFault("", 0);
     realmFault("  \n ", 0);
@@ -288,6 +357,8 @@ public final class PromisesTest {
     for (int s = 0; s < 4; s++) for (int h = 0; h < 4; h++) due("fits(0, " + h + ", " + s + ")", x.fits(0, h, s), law[s][h]);
     due("fits(0, 0, 99)", x.fits(0, 0, 99), true);
     due("fits(0, 0, 102)", x.fits(0, 0, 102), false);
+    due("it would fit in 100", x.fits(0, 1, 97), true);
+    due("fits(0, 1, 100)", x.fits(0, 1, 100), false);
     due("fits(0, 0, -1)", x.fits(0, 0, -1), false);
     due("fits(0, 0, -3)", x.fits(0, 0, -3), false);
     due("fits(3, 0, 0)", x.fits(3, 0, 0), false);
@@ -552,6 +623,40 @@ public final class PromisesTest {
     due("none", x.next(0), -1);
     x = told(ANN + "judges wigged<5;");
     due("the least hard", x.next(0), 0);
+    x = told(ANN + "judges wigged=9;");
+    due("a lean of 9", x.next(0), 0);
+    x.say(0, 0, true);
+    due("a lean of 9", x.leans(1), 9);
+    x = told(ANN + BOB + "judges wigged=headed+hard;");
+    x.say(1, 2, true);
+    x.mark(1, false);
+    due("by the head's lean", x.leans(1), 8);
+    due("one", x.leans(0), 1);
+    saidAndMarks(x);
+  }
+
+  /** What is SAID comes back whole with a MARK, whatever was SAID since. */
+  private static void saidAndMarks(WigOffice x) {
+    promise = 31;
+    x.mark(2, false);
+    x.say(0, 9, false);
+    x.mark(3, false);
+    due("gone back", x.mark(1, true), true);
+    due("said", x.count(9), 1);
+    due("lean", x.leans(1), 8);
+    x = told(ANN + BOB + "judges wigged=headed+hard;");
+    x.mark(0, false);
+    x.say(0, 3, false);
+    x.say(1, 3, true);
+    x.mark(1, false);
+    x.mark(0, true);
+    x.say(1, 0, false);
+    x.say(0, 0, true);
+    due("lean", x.leans(1), 4);
+    x.mark(1, true);
+    due("said", x.count(9), 2);
+    due("lean", x.leans(1), 9);
+    due("one", x.leans(0), 1);
   }
 
   private static void bathsAndKeeps() {
@@ -570,6 +675,8 @@ public final class PromisesTest {
     due("baths(0, -1, 1)", x.baths(0, -1, 1), -1);
     x.season();
     due("from now", x.baths(0, 0, 1), 1);
+    x.season();
+    due("from now", x.baths(0, 0, 2), 3);
     promise = 20;
     x = told(ALL);
     due("on its stand", x.keeps(0), -1);
@@ -591,6 +698,14 @@ public final class PromisesTest {
     due("the 40th, too", x.keeps(2), 40);
     seasons(x, 4);
     due("four less", x.keeps(0), 36);
+    x = told(LAW + ANN + "swells 49<years;");
+    seasons(x, 8);
+    x.mend(0);
+    x.put(0, 0);
+    seasons(x, 31);
+    due("not within 40", x.keeps(0), -1);
+    x.season();
+    due("within 40", x.keeps(0), 40);
   }
 
   private static void moths() {
@@ -897,12 +1012,65 @@ public final class PromisesTest {
     due("count(min)", x.count(Integer.MIN_VALUE), -1);
   }
 
+  /** Whatever is asked, nothing but the document's exception comes. */
+  private static void wild(WigOffice x, int a, int b, int c) {
+    x.wig(a, b);
+    x.head(a, b);
+    x.fits(a, b, c);
+    x.put(a, b);
+    x.off(a);
+    x.mend(a);
+    x.judged(a);
+    x.verdict(a);
+    x.fill(a, b);
+    x.say(a, b, c > 0);
+    x.leans(a);
+    x.next(a);
+    x.baths(a, b, c);
+    x.keeps(a);
+    x.moths(a, b);
+    x.tell(a, b);
+    x.under(a);
+    x.ask();
+    x.votes(a);
+    x.power(a, b);
+    x.match(a);
+    rests(x, a, b, c);
+    x.centuries(a, b, c);
+    x.mark(a, b > 0);
+    x.count(a);
+  }
+
+  private static void rests(WigOffice x, int a, int b, int c) {
+    int thrown = 0;
+    try { x.rests(a, b, c); } catch (NoSuchElementException e) { thrown++; }
+    try { x.horsehair(a, b, c, a); } catch (NoSuchElementException e) { thrown++; }
+    try { x.horsehair(a, b, c, 3); } catch (NoSuchElementException e) { thrown++; }
+    due("thrown", thrown <= 3, true);
+  }
+
+  private static void wild() {
+    promise = 0;
+    int[] some = {Integer.MIN_VALUE, -3, -2, -1, 0, 1, 2, 4, 5, 6, 7, 8, 9, 10, 40, 41, 64, 99, 100, 999, 1000, 9999, Integer.MAX_VALUE};
+    WigOffice[] all = {new WigOffice(), told(ALL), told(wigs(0, 6)), told(heads(0, 6)), told(wigs(0, 6) + heads(0, 6)
+        + "heats 1 2 3 4 5 6 7 8 9 0 1 2;slack 9;swells 0-9999*heat*years*sort;judges hard-wigged*headed;")};
+    for (WigOffice x : all) {
+      for (int a : some) for (int b : some) for (int c : some) wild(x, a, b, c);
+      seasons(x, 12);
+      for (int a : some) wild(x, a, a, a);
+      for (int i = 0; i < 20; i++) x.undo();
+    }
+  }
+
   public static void main(String[] args) {
     newObject();
     tape();
     realmCantStand();
     realmOtherFaults();
     realmStands();
+    names();
+    fullTape();
+    manyRealms();
     years();
     wigAndHead();
     laws();
@@ -923,6 +1091,7 @@ public final class PromisesTest {
     centuries();
     marks();
     counts();
+    wild();
     System.out.println(wrong == 0 ? "all answers are as due" : wrong + " answers are not as due");
     if (wrong != 0) System.exit(1);
   }
