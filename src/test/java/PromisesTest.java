@@ -644,19 +644,20 @@ public final class PromisesTest {
     due("gone back", x.mark(1, true), true);
     due("said", x.count(9), 1);
     due("lean", x.leans(1), 8);
-    x = told(ANN + BOB + "judges wigged=headed+hard;");
+    x = told(ANN + BOB + "judges wigged<headed+hard;");
     x.mark(0, false);
-    x.say(0, 3, false);
-    x.say(1, 3, true);
+    x.say(0, 3, true);
+    x.say(1, 0, false);
     x.mark(1, false);
     x.mark(0, true);
-    x.say(1, 0, false);
-    x.say(0, 0, true);
-    due("lean", x.leans(1), 4);
+    x.say(1, 1, false);
+    x.say(0, 5, true);
+    due("7 and 8", x.leans(0), 2);
+    due("least", x.leans(1), 7);
     x.mark(1, true);
     due("said", x.count(9), 2);
-    due("lean", x.leans(1), 9);
     due("one", x.leans(0), 1);
+    due("lean", x.leans(1), 6);
   }
 
   private static void bathsAndKeeps() {
